@@ -1567,13 +1567,18 @@ public final class LabelRoom {
         int bestPrice = 0;
         int bestDigits = 0;
         private final Collection collection;
-        // things (bits) that a card fits but for its likes of other cards
-        private final int[] able = new int[MOST_CARDS];
+        // other things (bits) with which a thing has a mark in common
+        private final int[] alike = new int[MOST_THINGS];
+        private final int[] byPrice = new int[MOST_THINGS];
         // other cards (bits) that a card is like
         private final int[] likes = new int[MOST_CARDS];
+        // cards ahead (bits) that a card is like, or that are like it
+        private final int[] linked = new int[MOST_CARDS];
+        // things (bits) that a card can have at all
+        private final int[] able = new int[MOST_CARDS];
+        // how many cards from this one on can have a thing at all
+        private final int[] hopes = new int[MOST_CARDS + 1];
         private final int[] chosen = new int[MOST_CARDS];
-        // what the cards from this one on cost at least, if each has a thing
-        private final int[] least = new int[MOST_CARDS + 1];
 
         Matcher(Collection collection) {
             this.collection = collection;
@@ -1599,13 +1604,48 @@ public final class LabelRoom {
         }
 
         private void prepare() {
+            for (int thing = 0; thing < collection.things; thing++) {
+                alike[thing] = alikeThings(thing);
+            }
+            sortByPrice();
             Words words = collection.shelf.words;
-            least[collection.cards] = 0;
-            for (int card = collection.cards - 1; card >= 0; card--) {
+            for (int card = 0; card < collection.cards; card++) {
                 int named = words.named(card, LIKE);
-                likes[card] = named & ~(1 << card);
-                able[card] = named >> collection.cards != 0 ? 0 : ableThings(card, (named >> card & 1) == 1);
-                least[card] = least[card + 1] + leastPrice(able[card]);
+                boolean lost = named >> collection.cards != 0;
+                likes[card] = lost ? 0 : named & ~(1 << card);
+                able[card] = lost ? 0 : ableThings(card, (named >> card & 1) == 1);
+            }
+            // what one card cannot have narrows those that are like it, and so on by all of them
+            for (int turn = 0; turn < collection.cards; turn++) {
+                for (int card = 0; card < collection.cards; card++) {
+                    narrow(card);
+                }
+            }
+            hopes[collection.cards] = 0;
+            for (int card = collection.cards - 1; card >= 0; card--) {
+                linked[card] = linkedAhead(card);
+                hopes[card] = hopes[card + 1] + (able[card] == 0 ? 0 : 1);
+            }
+        }
+
+        private int alikeThings(int thing) {
+            int bits = 0;
+            for (int other = 0; other < collection.things; other++) {
+                if (other != thing && (collection.marks[thing] & collection.marks[other]) != 0) {
+                    bits |= 1 << other;
+                }
+            }
+            return bits;
+        }
+
+        private void sortByPrice() {
+            for (int thing = 0; thing < collection.things; thing++) {
+                int at = thing;
+                while (at > 0 && collection.price[byPrice[at - 1]] > collection.price[thing]) {
+                    byPrice[at] = byPrice[at - 1];
+                    at--;
+                }
+                byPrice[at] = thing;
             }
         }
 
@@ -1622,30 +1662,44 @@ public final class LabelRoom {
             return bits;
         }
 
-        private int leastPrice(int bits) {
-            int best = NONE;
-            for (int thing = 0; thing < collection.things; thing++) {
-                if ((bits >> thing & 1) == 1 && (best == NONE || collection.price[thing] < best)) {
-                    best = collection.price[thing];
+        /** Leaves a card the things for which each card that it is like can have one alike. */
+        private void narrow(int card) {
+            for (int other = 0; other < collection.cards; other++) {
+                if ((likes[card] >> other & 1) == 1) {
+                    for (int thing = 0; thing < collection.things; thing++) {
+                        if ((alike[thing] & able[other]) == 0) {
+                            able[card] &= ~(1 << thing);
+                        }
+                    }
                 }
             }
-            return Math.max(0, best);
+        }
+
+        private int linkedAhead(int card) {
+            int bits = 0;
+            for (int ahead = 0; ahead < card; ahead++) {
+                if ((likes[card] >> ahead & 1) == 1 || (likes[ahead] >> card & 1) == 1) {
+                    bits |= 1 << ahead;
+                }
+            }
+            return bits;
         }
 
         /** Goes through all ways by rising digits, so that of equal ones the first stays. */
         private void search(int card, int used, int count, int price, int digits) {
-            int open = collection.cards - card;
-            if (count + open < bestCount || count + open == bestCount && price + least[card] >= bestPrice) {
+            int reach = card > collection.cards ? NONE : count + hopes[card];
+            if (reach < bestCount || reach == bestCount && price + leastPrices(used, reach - count) >= bestPrice) {
                 return;
             }
-            if (open <= 0) {
+            if (card >= collection.cards) {
                 bestCount = count;
                 bestPrice = price;
                 bestDigits = digits;
                 return;
             }
+            int open = able[card] & ~used;
             for (int thing = 0; thing < collection.things; thing++) {
-                if (((able[card] & ~used) >> thing & 1) == 1 && agrees(card, thing)) {
+                if ((open >> thing & 1) == 1 && agrees(card, thing)) {
                     chosen[card] = thing;
                     search(card + 1, used | 1 << thing, count + 1, price + collection.price[thing],
                         digits * 10 + thing);
@@ -1657,6 +1711,19 @@ public final class LabelRoom {
             }
         }
 
+        /** What so many of the things that are not used cost at least. */
+        private int leastPrices(int used, int many) {
+            int sum = 0;
+            int taken = 0;
+            for (int i = 0; i < collection.things && taken < many; i++) {
+                if ((used >> byPrice[i] & 1) == 0) {
+                    sum += collection.price[byPrice[i]];
+                    taken++;
+                }
+            }
+            return sum;
+        }
+
         /** Whether the cards of a mask from this one on can all have things, and no other one has any. */
         private boolean canAll(int card, int mask, int used) {
             if (card >= collection.cards) {
@@ -1666,8 +1733,9 @@ public final class LabelRoom {
                 chosen[card] = NONE;
                 return agrees(card, NONE) && canAll(card + 1, mask, used);
             }
+            int open = able[card] & ~used;
             for (int thing = 0; thing < collection.things; thing++) {
-                if (((able[card] & ~used) >> thing & 1) == 1 && agrees(card, thing)) {
+                if ((open >> thing & 1) == 1 && agrees(card, thing)) {
                     chosen[card] = thing;
                     if (canAll(card + 1, mask, used | 1 << thing)) {
                         return true;
@@ -1679,19 +1747,18 @@ public final class LabelRoom {
 
         /** Whether no like between this card and those ahead of it is untrue, if this one has that thing. */
         private boolean agrees(int card, int thing) {
+            if (linked[card] == 0) {
+                return true;
+            }
             for (int ahead = 0; ahead < card; ahead++) {
+                int other = chosen[ahead];
                 boolean asked = thing != NONE && (likes[card] >> ahead & 1) == 1;
-                boolean asking = chosen[ahead] != NONE && (likes[ahead] >> card & 1) == 1;
-                if ((asked || asking) && !areAlike(thing, chosen[ahead])) {
+                boolean asking = other != NONE && (likes[ahead] >> card & 1) == 1;
+                if ((asked || asking) && (thing == NONE || other == NONE || (alike[thing] >> other & 1) == 0)) {
                     return false;
                 }
             }
             return true;
-        }
-
-        private boolean areAlike(int one, int other) {
-            return collection.isThing(one) && collection.isThing(other)
-                && (collection.marks[one] & collection.marks[other]) != 0;
         }
     }
 
