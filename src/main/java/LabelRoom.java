@@ -85,11 +85,13 @@ public final class LabelRoom {
         if (sort < SORT_COLLECTION || sort > SORT_READING) {
             return NO_SORT;
         }
-        return isSound(sort) ? NONE : tape.at;
+        boolean sound = sort == SORT_LAW ? lawReader.readLaw()
+            : sort == SORT_READING ? reader.readReading() : reader.readCollection();
+        return sound ? NONE : tape.at;
     }
 
     public int text(int sort) {
-        if (sort < SORT_COLLECTION || sort > SORT_READING || isFull(sort) || !isSound(sort)) {
+        if (isFull(sort) || fault(sort) != NONE) {
             return NONE;
         }
         tape.length = 0;
@@ -106,13 +108,6 @@ public final class LabelRoom {
         guesses.forget();
         imaged = false;
         return collection.cards;
-    }
-
-    private boolean isSound(int sort) {
-        if (sort == SORT_LAW) {
-            return lawReader.readLaw();
-        }
-        return sort == SORT_READING ? reader.readReading() : reader.readCollection();
     }
 
     private boolean isFull(int sort) {
@@ -640,12 +635,8 @@ public final class LabelRoom {
             return true;
         }
 
-        /** The number that stands here; NONE if it is wrong, the place is then where. */
+        /** The number that stands just here; NONE if it is wrong, the place is then where. */
         int readNumber(int digits, int least, int most) {
-            int first = peek();
-            if (first < '0' || first > '9') {
-                return NONE;
-            }
             int value = 0;
             int taken = 0;
             while (at < length && bytes[at] >= '0' && bytes[at] <= '9') {
@@ -656,11 +647,11 @@ public final class LabelRoom {
                 at++;
                 taken++;
             }
-            if (value < least || value > most) {
+            if (taken > 0 && (value < least || value > most)) {
                 at--;
                 return NONE;
             }
-            return value;
+            return taken > 0 ? value : NONE;
         }
     }
 
@@ -674,10 +665,11 @@ public final class LabelRoom {
         final int[] ink;
 
         Words(int rows) {
-            size = new int[rows];
-            sort = new int[rows * MOST_WORDS];
-            about = new int[rows * MOST_WORDS];
-            ink = new int[rows * MOST_WORDS];
+            int many = Math.max(1, Math.min(MOST_CARDS, rows));
+            size = new int[many];
+            sort = new int[many * MOST_WORDS];
+            about = new int[many * MOST_WORDS];
+            ink = new int[many * MOST_WORDS];
         }
 
         void takeAll(Words other) {
@@ -876,10 +868,11 @@ public final class LabelRoom {
         }
 
         private int marksUnder(int card) {
-            if (!isCard(card) || !isThing(shelf.under[card])) {
+            if (card < 0 || card >= cards) {
                 return 0;
             }
-            return marks[shelf.under[card]];
+            int thing = shelf.under[card];
+            return thing < 0 || thing >= things ? 0 : marks[thing];
         }
 
         boolean isRight(int card) {
@@ -1100,6 +1093,7 @@ public final class LabelRoom {
                 }
                 told |= 1 << which;
                 tape.step();
+                tape.peek();
                 int value = tape.readNumber(2, least[which], most[which]);
                 if (value == NONE) {
                     return false;

@@ -79,6 +79,11 @@ public final class ActTest {
         Check.due("no word left", x.lamp(0), NONE);
         Check.due("gone", x.count(11), 2);
         Check.due("acts", x.count(13), 2);
+        LabelRoom z = Check.room("t:;ci7:abcdef;ci3:abcdef;ci5:abcdef");
+        z.lamp(1);
+        z.copy(0);
+        int[] inks = {z.word(0, 5, 2), z.word(1, 0, 2), z.word(1, 5, 2), z.word(2, 0, 2), z.word(2, 5, 2)};
+        Check.dueRow("cards of six words", inks, 9, 2, 2, 5, 5);
         LabelRoom y = Check.room("t:;c i2:a-b-c");
         Check.tell(y, 1, "y:p");
         y.law(0);

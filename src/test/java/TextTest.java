@@ -62,6 +62,10 @@ public final class TextTest {
         Check.due("still 239", x.count(4), 239);
         Check.due("one more now", x.feed(0, 0, 0, 256, 0), 240);
         Check.due("bytes above 127", x.fault(0), 0);
+        x.end(237);
+        int[] four = {x.feed(-1, 0, 0, 0, 0), x.feed(0, -1, 0, 0, 0), x.feed(0, 0, -1, 0, 0), x.feed(0, 0, 0, -1, 0),
+            x.feed(0, 0, 0, 0, -1), x.feed(1, 1, 0, 1, 1), x.count(4), x.feed(0, 1, 1, 1, 0)};
+        Check.dueRow("four are too many, wherever they stand", four, NONE, NONE, NONE, NONE, NONE, NONE, 237, 240);
     }
 
     private static void ending() {
@@ -313,6 +317,10 @@ public final class TextTest {
         fault(1, "y:!1=1&!1=1&!1=1|!1=1|!1=1&!1=1&!1=1&!1=1?1", NONE);
         fault(1, "y:[1]+[1]*[1]+[1]-[1]-[1]/[1]+[1]", NONE);
         fault(1, "y:1=1?[[[[[[[1", 12);
+        fault(1, "y:((((((1=1&!1", 12);
+        fault(1, "y:((((((1=1|[1", 12);
+        fault(1, "y:(((((1=1|(1=1)&!1=[1]))", 20);
+        fault(1, "y:(((((1=1|(1=1)&!1=1)))))?[1+1]", NONE);
     }
 
     private static void readings() {
