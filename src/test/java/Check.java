@@ -2,20 +2,34 @@
 final class Check {
     private static int asked = 0;
     private static int wrong = 0;
+    private static String sentence = "";
 
     private Check() {
+    }
+
+    /** The words of the document that the answers from here on are held against. */
+    static void sentence(String words) {
+        sentence = "[" + words + "] ";
     }
 
     static void due(String call, long got, long want) {
         asked++;
         if (got != want) {
             wrong++;
-            System.out.println(call + " answered " + got + ", due is " + want);
+            System.out.println(sentence + call + " answered " + got + ", due is " + want);
         }
     }
 
     static void due(String call, boolean got, boolean want) {
         due(call, got ? 1 : 0, want ? 1 : 0);
+    }
+
+    static void due(String call, String got, String want) {
+        asked++;
+        if (!got.equals(want)) {
+            wrong++;
+            System.out.println(sentence + call + " shows " + got + ", due is " + want);
+        }
     }
 
     /** A row of answers that are due one behind the other. */
@@ -49,6 +63,20 @@ final class Check {
         tape(x, text);
         due("fault(" + sort + ") of \"" + text + "\"", x.fault(sort), LabelRoom.NONE);
         return x.text(sort);
+    }
+
+    /** The fault of a text of a sort; a faulty one is refused and stays on the tape. */
+    static void fault(int sort, String text, int want) {
+        LabelRoom x = new LabelRoom();
+        tape(x, text);
+        String call = "fault(" + sort + ") of \"" + text + "\"";
+        due(call, x.fault(sort), want);
+        due(call + " again", x.fault(sort), want);
+        due(call + ", bytes kept", x.count(4), text.length());
+        due(call + ", text", x.text(sort) == LabelRoom.NONE, want != LabelRoom.NONE);
+        due(call + ", bytes behind text", x.count(4), want == LabelRoom.NONE ? 0 : text.length());
+        int held = x.count(0) + x.count(2) + x.count(3);
+        due(call + ", it is there behind text", held > 0, want == LabelRoom.NONE);
     }
 
     static LabelRoom room(String text) {
