@@ -1,6 +1,8 @@
 /** The bounds of ==== 2: INK at 0, what fits, what a DAY takes, the LOG, acts by hand and their undoing. */
 public final class BoundDayTest {
     private static final int NONE = LabelRoom.NONE;
+    private static final int LEAST = Integer.MIN_VALUE;
+    private static final int MOST = Integer.MAX_VALUE;
 
     public static void main(String[] args) {
         gone();
@@ -310,31 +312,46 @@ public final class BoundDayTest {
         Check.dueRow("log", no, NONE, NONE, NONE, NONE);
     }
 
+    /** Six WORDS go GONE on day 0, five on day 1, and so on: each of the first DAYS has a LOG of its own. */
+    private static LabelRoom stairs() {
+        LabelRoom x = Check.room("t:;ci9:abcdef;ci9:abcde;ci9:abcd;ci9:abc;ci9:ab;ci9:a");
+        by(x, "y:d=p?9;y:0");
+        return x;
+    }
+
+    /** The oldest of the LOG, and those behind it. */
+    private static void oldest(String when, LabelRoom x, int length, int... want) {
+        Check.due(when + ", how long", x.count(12), length);
+        int[] got = new int[want.length];
+        for (int i = 0; i < want.length; i++) {
+            got[i] = x.log(length - 1 - i, 2);
+        }
+        Check.dueRow(when + ", the oldest", got, want);
+        Check.due(when + ", behind the oldest", x.log(length, 2), NONE);
+    }
+
     private static void logLength() {
         Check.sentence("LOG .. (the latest 60 DAYS)");
-        // one WORD goes on day 0, one on day 1
-        LabelRoom x = Check.room("t:;ci9f0:ab");
-        by(x, "y:d=p?9;y:0");
-        int[] empty = {x.count(12), x.log(0, 0)};
-        Check.dueRow("empty", empty, 0, NONE);
-        x.days(59);
-        int[] before = {x.count(12), x.log(58, 2), x.log(57, 2), x.log(56, 2), x.log(59, 2)};
-        Check.dueRow("59 DAYS", before, 59, 1, 1, 0, NONE);
+        LabelRoom x = stairs();
+        oldest("no DAY", x, 0);
         x.days(1);
-        int[] full = {x.count(12), x.log(59, 2), x.log(58, 2), x.log(57, 2), x.log(60, 2)};
-        Check.dueRow("60 DAYS", full, 60, 1, 1, 0, NONE);
+        oldest("1 DAY", x, 1, 6);
         x.days(1);
-        int[] over = {x.count(12), x.log(59, 2), x.log(58, 2), x.log(60, 2)};
-        Check.dueRow("61 DAYS", over, 60, 1, 0, NONE);
+        oldest("2 DAYS", x, 2, 6, 5);
+        x.days(57);
+        oldest("59 DAYS", x, 59, 6, 5, 4, 3, 2, 1, 0, 0);
         x.days(1);
-        int[] more = {x.count(12), x.log(59, 2), x.log(60, 2), x.log(61, 2)};
-        Check.dueRow("62 DAYS", more, 60, 0, NONE, NONE);
+        oldest("60 DAYS", x, 60, 6, 5, 4, 3, 2, 1, 0, 0);
+        x.days(1);
+        oldest("61 DAYS", x, 60, 5, 4, 3, 2, 1, 0, 0);
+        x.days(1);
+        oldest("62 DAYS", x, 60, 4, 3, 2, 1, 0, 0);
         for (int i = 0; i < 10; i++) {
             x.days(60);
         }
-        int[] far = {x.count(6), x.count(12), x.log(59, 2), x.log(60, 2), x.log(Integer.MAX_VALUE, 2),
-            x.log(Integer.MIN_VALUE, 2)};
-        Check.dueRow("662 DAYS", far, 662, 60, 0, NONE, NONE, NONE);
+        oldest("662 DAYS", x, 60, 0, 0, 0, 0);
+        int[] far = {x.count(6), x.log(MOST, 2), x.log(LEAST, 2), x.log(0, MOST), x.log(0, LEAST)};
+        Check.dueRow("far outside", far, 662, NONE, NONE, NONE, NONE);
     }
 
     private static void actLength() {
@@ -381,38 +398,32 @@ public final class BoundDayTest {
 
     private static void undoneLog() {
         Check.sentence("UNDONE one by one (LOG, too)");
-        LabelRoom x = Check.room("t:;ci9f0:ab");
-        by(x, "y:d=p?9;y:0");
+        LabelRoom x = stairs();
         x.days(60);
-        x.days(1);
-        Check.due("day 0 has left the LOG", x.log(59, 2), 1);
-        Check.due("and so day 1 is the 59th", x.log(58, 2), 0);
+        x.days(2);
+        oldest("62 DAYS", x, 60, 4, 3, 2, 1, 0);
         x.undo();
-        int[] back = {x.count(12), x.log(59, 2), x.log(58, 2), x.log(57, 2)};
-        Check.dueRow("day 0 is in the LOG again", back, 60, 1, 1, 0);
+        oldest("one undone", x, 60, 5, 4, 3, 2, 1, 0);
         x.undo();
-        int[] less = {x.count(12), x.log(59, 2), x.log(58, 2), x.log(57, 2)};
-        Check.dueRow("59 DAYS", less, 59, NONE, 1, 1);
-        // days 60 .. 99 and those of another round are undone
-        LabelRoom y = Check.room("t:;ci9f0:ab");
-        by(y, "y:d=p?9;y:0");
+        oldest("two undone: day 0 is in the LOG again", x, 60, 6, 5, 4, 3, 2, 1, 0);
+        x.undo();
+        oldest("three undone", x, 59, 6, 5, 4, 3, 2, 1, 0);
+        LabelRoom y = stairs();
         y.days(60);
         y.days(40);
-        int[] late = {y.count(12), y.log(59, 2), y.log(0, 2)};
-        Check.dueRow("100 DAYS", late, 60, 0, 0);
+        oldest("100 DAYS", y, 60, 0, 0, 0);
         for (int i = 0; i < 40; i++) {
             y.undo();
         }
-        int[] early = {y.count(6), y.count(12), y.log(59, 2), y.log(58, 2), y.log(57, 2)};
-        Check.dueRow("40 undone", early, 60, 60, 1, 1, 0);
-        // an act by hand leaves the LOG alone
-        y.lamp(0);
+        Check.due("DAY", y.count(6), 60);
+        oldest("40 undone", y, 60, 6, 5, 4, 3, 2, 1, 0);
+        // acts by hand leave the LOG alone
         y.light(4);
-        Check.due("LOG", y.log(59, 2), 1);
+        y.put(0, 0);
+        oldest("acts by hand", y, 60, 6, 5, 4, 3, 2, 1, 0);
         y.undo();
         y.undo();
-        Check.due("LOG", y.log(59, 2), 1);
-        Check.due("how long", y.count(12), 60);
+        oldest("and they undone", y, 60, 6, 5, 4, 3, 2, 1, 0);
     }
 
     private static void puts() {
@@ -477,8 +488,8 @@ public final class BoundDayTest {
         Check.due("it is so", x.light(5), false);
         Check.due("-1", x.light(-1), false);
         Check.due("10", x.light(10), false);
-        Check.due("min", x.light(Integer.MIN_VALUE), false);
-        Check.due("max", x.light(Integer.MAX_VALUE), false);
+        Check.due("min", x.light(LEAST), false);
+        Check.due("max", x.light(MOST), false);
         int[] no = {x.count(7), x.count(13)};
         Check.dueRow("as it was", no, 5, 0);
         for (int light = 0; light <= 9; light++) {
@@ -516,7 +527,7 @@ public final class BoundDayTest {
     private static void manyDays() {
         Check.sentence("DAYS (1 .. 60)");
         LabelRoom x = Check.room("t:;c:a");
-        int[] no = {x.days(0), x.days(-1), x.days(61), x.days(Integer.MIN_VALUE), x.days(Integer.MAX_VALUE), x.count(6),
+        int[] no = {x.days(0), x.days(-1), x.days(61), x.days(LEAST), x.days(MOST), x.count(6),
             x.count(13), x.count(12)};
         Check.dueRow("refused", no, NONE, NONE, NONE, NONE, NONE, 0, 0, 0);
         int[] yes = {x.days(1), x.count(13), x.days(60), x.count(13), x.days(59), x.count(6)};

@@ -299,7 +299,8 @@ public final class BoundDecadeTest {
 
     private static void imageLog() {
         Check.sentence("An IMAGE keeps .. the LOG");
-        LabelRoom x = Check.room("t:;ci9f0:ab");
+        // six WORDS go GONE on day 0, five on day 1, and so on
+        LabelRoom x = Check.room("t:;ci9:abcdef;ci9:abcde;ci9:abcd;ci9:abc;ci9:ab;ci9:a");
         x.law(Check.tell(x, 1, "y:d=p?9;y:0"));
         x.days(60);
         x.image();
@@ -307,14 +308,20 @@ public final class BoundDecadeTest {
         x.days(60);
         x.days(20);
         Check.due("back", x.back(), 60);
-        int[] log = {x.count(12), x.log(59, 2), x.log(58, 2), x.log(57, 2), x.log(60, 2)};
-        Check.dueRow("the LOG of 60 DAYS", log, 60, 1, 1, 0, NONE);
+        int[] log = {x.count(12), x.log(59, 2), x.log(58, 2), x.log(57, 2), x.log(54, 2), x.log(53, 2), x.log(60, 2)};
+        Check.dueRow("the LOG of 60 DAYS", log, 60, 6, 5, 4, 1, 0, NONE);
         x.days(1);
-        int[] then = {x.count(12), x.log(59, 2), x.log(58, 2)};
-        Check.dueRow("a DAY later", then, 60, 1, 0);
+        int[] then = {x.count(12), x.log(59, 2), x.log(58, 2), x.log(54, 2)};
+        Check.dueRow("a DAY later", then, 60, 5, 4, 0);
         x.undo();
         int[] again = {x.log(59, 2), x.log(58, 2)};
-        Check.dueRow("undone", again, 1, 1);
+        Check.dueRow("undone", again, 6, 5);
+        LabelRoom y = Check.room("t:;ci1:a");
+        y.image();
+        y.days(60);
+        y.back();
+        int[] none = {y.count(12), y.log(0, 2), y.days(1), y.log(0, 2), y.log(1, 2)};
+        Check.dueRow("an IMAGE without a LOG", none, 0, NONE, 1, 1, NONE);
     }
 
     private static void images() {

@@ -118,6 +118,10 @@ public final class BoundQuestionTest {
         match("t:a;c:>0", 0, 1, 1);
         match("t:a;c:>1", 9, 0, 0);
         match("t:a;t:a;c:>1;c:>0", 1, 2, 2);
+        // what card 0 has must be like it, and it like what card 0 has, though each could have another one
+        match("tp1:a;tp1:b;tp1:b;c:-c;c:>0b", 12, 2, 2);
+        match("tp1:b;tp9:a;tp9:b;c:>1;c:-c", 2, 2, 10);
+        match("tp1:ab;tp1:cd;tp1:bc;tp1:d;c:-f;c:>0;c:>1;c:>2", 213, 4, 4);
         match("t:a;t:a;c:>1;c:>9", 99, 0, 0);
         match("t:a;t:a;t:a;t:a;t:a;t:a;c:>1;c:>2;c:>3;c:>4;c:>5;c:>0", 12345, 6, 6);
         match("t:a;t:a;t:a;t:a;t:a;t:;c:>1;c:>2;c:>3;c:>4;c:>5;c:>0", 999999, 0, 0);

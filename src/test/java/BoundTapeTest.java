@@ -5,13 +5,28 @@ public final class BoundTapeTest {
     private static final int MOST = Integer.MAX_VALUE;
 
     public static void main(String[] args) {
+        newObject();
         feeding();
         ending();
         sorts();
         tellingRefused();
         anotherCollection();
+        lawsThatHold();
         counts();
         Check.finish("BoundTapeTest");
+    }
+
+    private static void newObject() {
+        Check.sentence("LabelRoom(): No COLLECTION");
+        LabelRoom x = new LabelRoom();
+        for (int what = 0; what <= 13; what++) {
+            Check.due("count(" + what + ")", x.count(what), what == 5 ? NONE : 0);
+        }
+        Check.due("a FAULT of an empty TAPE", x.fault(0), 0);
+        int[] none = {x.right(), x.image(), x.back(), x.undo(), x.log(0, 0), x.reading(0, 0, 0), x.text(0)};
+        for (int answer : none) {
+            Check.due("nothing is there", answer, NONE);
+        }
     }
 
     private static void feeding() {
@@ -133,6 +148,31 @@ public final class BoundTapeTest {
         Check.due("six CARDS", Check.tell(x, 0, "c:a;c:a;c:a;c:a;c:a;c:a;t:"), 6);
         Check.due("a second LAW", Check.tell(x, 1, "y:1"), 1);
         Check.due("a second READING", Check.tell(x, 2, "a"), 1);
+    }
+
+    private static void lawsThatHold() {
+        Check.sentence("law: The LAW that holds (NONE: none). False: no such one");
+        LabelRoom x = new LabelRoom();
+        Check.due("law(0) without any", x.law(0), false);
+        Check.due("law(NONE) without any", x.law(NONE), true);
+        for (int i = 0; i < 4; i++) {
+            Check.tell(x, 1, "y:" + i);
+            Check.due("telling one does not make it hold", x.count(5), i - 1);
+            Check.due("the next one is not there", x.law(i + 1), false);
+            Check.due("as it was", x.count(5), i - 1);
+            Check.due("law(" + i + ")", x.law(i), true);
+            Check.due("it holds", x.count(5), i);
+            Check.due("it holds already", x.law(i), true);
+        }
+        int[] no = {-2, 4, LEAST, MOST};
+        for (int law : no) {
+            Check.due("law(" + law + ")", x.law(law), false);
+            Check.due("as it was", x.count(5), 3);
+        }
+        Check.due("law(0)", x.law(0), true);
+        Check.due("0", x.count(5), 0);
+        Check.due("law(NONE)", x.law(NONE), true);
+        Check.due("none", x.count(5), NONE);
     }
 
     private static void counts() {

@@ -30,6 +30,7 @@ public final class BoundTermsTest {
         heldAtEachSign();
         cutting();
         worths();
+        conditions();
         readings();
         nowhere();
         Check.finish("BoundTermsTest");
@@ -615,6 +616,42 @@ public final class BoundTermsTest {
         worth("y:5>5?1;y:5>4?2", 2);
         worth("y:5<4?1;y:4>5?2;y:3", 3);
         worth("y:0-1<0?5", 5);
+    }
+
+    /** A CONDITION of which T is true and F is not. */
+    private static void holds(String condition, boolean want) {
+        worth("y:" + condition.replace("T", "1=1").replace("F", "1=2") + "?5;y:3", want ? 5 : 3);
+    }
+
+    private static void conditions() {
+        Check.sentence("CONDITION: TRUTHS with | between; TRUTH: UNITS with & between; UNIT: ! UNIT, ( CONDITION )");
+        String[] both = {"F", "T"};
+        for (int one = 0; one < 2; one++) {
+            holds(both[one], one == 1);
+            holds("!" + both[one], one == 0);
+            holds("!!!!!" + both[one], one == 0);
+            holds("!!!!!!" + both[one], one == 1);
+            holds("((((((" + both[one] + "))))))", one == 1);
+            for (int other = 0; other < 2; other++) {
+                String pair = both[one] + "&" + both[other];
+                holds(pair, one + other == 2);
+                holds("!(" + pair + ")", one + other < 2);
+                holds("!" + pair, one == 0 && other == 1);
+                holds(both[one] + "|" + both[other], one + other > 0);
+                holds("!(" + both[one] + "|" + both[other] + ")", one + other == 0);
+                for (int last = 0; last < 2; last++) {
+                    holds(pair + "|" + both[last], one + other == 2 || last == 1);
+                    holds(both[last] + "|" + pair, one + other == 2 || last == 1);
+                    holds("(" + both[last] + "|" + both[one] + ")&" + both[other], last + one > 0 && other == 1);
+                    holds(both[last] + "&!" + both[one] + "|!" + both[other], last == 1 && one == 0 || other == 0);
+                }
+            }
+        }
+        // as many as the TAPE holds
+        holds("T" + times("&T", 50), true);
+        holds("T" + times("&T", 49) + "&F", false);
+        holds("F" + times("|F", 50), false);
+        holds("F" + times("|F", 49) + "|T", true);
     }
 
     private static void readings() {
