@@ -1768,6 +1768,7 @@ public final class LabelRoom {
         private final boolean[] fitted = new boolean[MOST_STOOD];
         private final int[] fitting = new int[MOST_THINGS];
         private int aimed = 0;
+        private int gone = 0;
         private int rows = 0;
         private int leftHas = 0;
         private int leftNot = 0;
@@ -1799,7 +1800,7 @@ public final class LabelRoom {
                 return false;
             }
             Words words = collection.shelf.words;
-            int gone = words.size[card] - words.leftIn(card);
+            gone = words.size[card] - words.leftIn(card);
             if (gone > MOST_GONE) {
                 return false;
             }
@@ -1890,7 +1891,7 @@ public final class LabelRoom {
             rowNot = leftNot;
             // each word that is gone is one digit of the row, and its digit 0 is a word, too
             int rest = row;
-            for (int weight = 1; weight < rows; weight *= CHOICES) {
+            for (int i = 0; i < gone; i++) {
                 int digit = rest % CHOICES;
                 rest /= CHOICES;
                 if (digit < MOST_MARKS) {

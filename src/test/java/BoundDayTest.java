@@ -28,6 +28,7 @@ public final class BoundDayTest {
         writes();
         manyDays();
         notActs();
+        manyCalls();
         Check.finish("BoundDayTest");
     }
 
@@ -553,5 +554,30 @@ public final class BoundDayTest {
         Check.due("undo", x.undo(), 0);
         int[] kept = {x.count(5), x.count(9), x.count(10), x.count(2), x.count(3)};
         Check.dueRow("what is no act is not undone", kept, NONE, 6, 2, 1, 1);
+    }
+
+    private static void manyCalls() {
+        Check.sentence("An object is used for at most 512 calls after it has been made");
+        LabelRoom x = Check.room("t:a;t:b;ct0i9f0:a");
+        by(x, "y:d>2951*10+8?4;y:0");
+        for (int i = 1; i <= 490; i++) {
+            Check.due("days(60)", x.days(60), i * 60);
+        }
+        Check.due("decades(60)", x.decades(60, 1L), 29460);
+        Check.due("decades(60)", x.decades(60, Long.MAX_VALUE), 29520);
+        // the last one was day 29519
+        int[] late = {x.count(6), x.count(12), x.count(13), x.log(59, 0), x.word(0, 0, 2), x.card(0, 1), x.undo(),
+            x.count(6), x.word(0, 0, 2)};
+        Check.dueRow("29520 DAYS", late, 29520, 60, 40, 0, 5, 0, 39, 29519, 9);
+        LabelRoom y = Check.room("t:a;ct0i9f0:a");
+        by(y, "y:d=9999?4;y:0");
+        for (int i = 1; i <= 166; i++) {
+            y.days(60);
+        }
+        y.days(39);
+        Check.due("DAY", y.count(6), 9999);
+        Check.due("ahead of day 9999", y.word(0, 0, 2), 9);
+        y.days(1);
+        Check.due("behind day 9999", y.word(0, 0, 2), 5);
     }
 }

@@ -618,9 +618,20 @@ public final class BoundTermsTest {
         worth("y:0-1<0?5", 5);
     }
 
-    /** A CONDITION of which T is true and F is not. */
+    /** A CONDITION of which T is true and F is not, each by all of = < > and by all of them in turn. */
     private static void holds(String condition, boolean want) {
-        worth("y:" + condition.replace("T", "1=1").replace("F", "1=2") + "?5;y:3", want ? 5 : 3);
+        String[] truths = {"1=1", "1<2", "2>1"};
+        String[] untruths = {"1=2", "2<1", "1>2"};
+        for (int sort = 0; sort < 3; sort++) {
+            String one = condition.replace("T", truths[sort]).replace("F", untruths[sort]);
+            worth("y:" + one + "?5;y:3", want ? 5 : 3);
+            String mixed = condition;
+            for (int turn = sort; mixed.matches(".*[TF].*"); turn++) {
+                boolean truth = mixed.replaceAll("[^TF]", "").charAt(0) == 'T';
+                mixed = mixed.replaceFirst("[TF]", truth ? truths[turn % 3] : untruths[turn % 3]);
+            }
+            worth("y:" + mixed + "?5;y:3", want ? 5 : 3);
+        }
     }
 
     private static void conditions() {
