@@ -1293,7 +1293,11 @@ public final class LabelRoom {
                     return false;
                 }
                 tape.step();
-                return readSum(within + 1) && tape.accept(']');
+                if (!readSum(within + 1) || tape.peek() != ']') {
+                    return false;
+                }
+                tape.step();
+                return true;
             }
             int letter = sign == Tape.END ? NONE : LETTERS.indexOf((char) sign);
             if (letter >= 0) {

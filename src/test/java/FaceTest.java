@@ -1,17 +1,14 @@
-import java.io.IOException;
 import java.lang.reflect.Field;
 import java.lang.reflect.Member;
 import java.lang.reflect.Method;
 import java.lang.reflect.Modifier;
-import java.nio.file.Files;
-import java.nio.file.Path;
 import java.util.Arrays;
 import java.util.NoSuchElementException;
 import java.util.Set;
 import java.util.TreeSet;
 import java.util.stream.Collectors;
 
-/** The public face as the document has it, and rules of the language that can be looked up. */
+/** The public face as the document has it, and calls with any arguments. */
 public final class FaceTest {
     private static final String FACE = "int feed(int,int,int,int,int); boolean end(int); int fault(int); int text(int);"
         + "int thing(int,int); int card(int,int); int word(int,int,int); boolean law(int); boolean cleaner(int);"
@@ -22,9 +19,8 @@ public final class FaceTest {
         + "int nowhere(); int forged(); int alone(int); int suits(int); int wanted(int); int perhaps();"
         + "int shared(int,int); int twins(int); int odds(int,int,int); int rescue(int,int); int image(); int back();"
         + "int count(int)";
-    private static final String SOURCE = "src/main/java/LabelRoom.java";
 
-    public static void main(String[] args) throws IOException {
+    public static void main(String[] args) {
         face();
         members(LabelRoom.class, true);
         for (Class<?> inside : LabelRoom.class.getDeclaredClasses()) {
@@ -33,7 +29,6 @@ public final class FaceTest {
             members(inside, false);
         }
         Check.due("classes", LabelRoom.class.getDeclaredClasses().length < 13, true);
-        source();
         anyArguments();
         Check.finish("FaceTest");
     }
@@ -50,6 +45,11 @@ public final class FaceTest {
             }
         }
         Check.due("the methods " + got + " are " + want, got.equals(want), true);
+        for (Method method : LabelRoom.class.getDeclaredMethods()) {
+            String thrown = Arrays.toString(method.getExceptionTypes());
+            Check.due(method.getName() + " throws", thrown, method.getName().equals("thing")
+                ? "[class java.util.NoSuchElementException]" : "[]");
+        }
         Check.due("final", Modifier.isFinal(LabelRoom.class.getModifiers()), true);
         Check.due("one constructor", LabelRoom.class.getConstructors().length, 1);
         Check.due("two constants", LabelRoom.class.getFields().length, 2);
@@ -72,30 +72,6 @@ public final class FaceTest {
                 || constant && Modifier.isPublic(field.getModifiers()), true);
         }
         Check.due(one + " has some twenty fields", held <= 20, true);
-    }
-
-    /** What the language leaves out, by its words; comments and texts have none of them either. */
-    private static void source() throws IOException {
-        String[] lines = Files.readString(Path.of(SOURCE)).split("\n");
-        String[] ruledOut = {"catch", "try", "finally", "synchronized", "assert", "->", "::", "instanceof", "package",
-            "Exact", "static {", "System.out", "double", "float"};
-        int opened = 0;
-        for (int i = 0; i < lines.length; i++) {
-            for (String word : ruledOut) {
-                boolean found = lines[i].matches(".*(^|\\W)\\Q" + word + "\\E($|\\W).*");
-                Check.due("line " + (i + 1) + " has " + word, found, false);
-            }
-            if (lines[i].startsWith("import")) {
-                Check.due(lines[i], lines[i].equals("import java.util.NoSuchElementException;"), true);
-            }
-            if (lines[i].matches(" {4}( {4})?[A-Za-z].*\\) (throws \\w+ )?\\{")) {
-                opened = i;
-            }
-            if (lines[i].matches(" {4}( {4})?\\}")) {
-                Check.due("line " + (i + 1) + " ends some sixty lines", i - opened <= 62 || lines[i].startsWith("    }"),
-                    true);
-            }
-        }
     }
 
     /** Numbers from everywhere, in a room of each kind: nothing but what the document names is thrown. */
